@@ -1075,35 +1075,31 @@ public final class GhostQuarter {
             refused = false;
             int place = from;
             // skips lead ahead only, so no command is met twice
-            for (int i = 0; i < MOST_COMMANDS; i++) {
-                if (refused || place < 0 || place >= size || command[place] == END) {
+            for (int i = 0; i < MOST_COMMANDS && !refused; i++) {
+                if (place < 0 || place >= size || command[place] == END) {
                     break;
                 }
-                place = follow(place);
+                int sign = command[place];
+                int number = operand[place];
+                place++;
+                if (sign == '&' || sign == '|') {
+                    int asked = pop();
+                    if ((asked != 0) == (sign == '|')) {
+                        push(asked);
+                        place = number;
+                    }
+                } else if (sign == NUMBER) {
+                    push(number);
+                } else if (sign == LETTER) {
+                    push(number >= 0 && number < FACTS ? facts[number] : 0);
+                } else if (sign == '!') {
+                    push(pop() == 0 ? 1 : 0);
+                } else {
+                    int right = pop();
+                    push(work(sign, pop(), right));
+                }
             }
             return refused ? 0 : pop();
-        }
-
-        private int follow(int place) {
-            int sign = command[place];
-            if (sign == '&' || sign == '|') {
-                int asked = pop();
-                if ((asked != 0) == (sign == '|')) {
-                    push(asked);
-                    return operand[place];
-                }
-            } else if (sign == NUMBER) {
-                push(operand[place]);
-            } else if (sign == LETTER) {
-                int fact = operand[place];
-                push(fact >= 0 && fact < FACTS ? facts[fact] : 0);
-            } else if (sign == '!') {
-                push(pop() == 0 ? 1 : 0);
-            } else {
-                int right = pop();
-                push(work(sign, pop(), right));
-            }
-            return place + 1;
         }
 
         private int work(int sign, int left, int right) {
@@ -1221,12 +1217,25 @@ public final class GhostQuarter {
 
         private boolean readPiece(Law law, int depth) {
             int sign = next();
-            if (sign != '!' && sign != '(') {
-                return readCompare(law, depth);
+            if (sign == '!' || sign == '(') {
+                return depth < DEEPEST ? readOpen(law, depth, sign) : fail(5);
             }
-            if (depth >= DEEPEST) {
-                return fail(5);
+            if (!readSum(law, depth)) {
+                return false;
             }
+            int compare = next();
+            if (compare != '<' && compare != '>' && compare != '=') {
+                return fail(1);
+            }
+            place++;
+            if (!readSum(law, depth)) {
+                return false;
+            }
+            law.add(compare, 0);
+            return true;
+        }
+
+        private boolean readOpen(Law law, int depth, int sign) {
             place++;
             if (sign == '(') {
                 return readEither(law, depth + 1) && expect(')');
@@ -1235,22 +1244,6 @@ public final class GhostQuarter {
                 return false;
             }
             law.add('!', 0);
-            return true;
-        }
-
-        private boolean readCompare(Law law, int depth) {
-            if (!readSum(law, depth)) {
-                return false;
-            }
-            int sign = next();
-            if (sign != '<' && sign != '>' && sign != '=') {
-                return fail(1);
-            }
-            place++;
-            if (!readSum(law, depth)) {
-                return false;
-            }
-            law.add(sign, 0);
             return true;
         }
 
