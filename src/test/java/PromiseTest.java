@@ -1,81 +1,11 @@
 /** Rows of calls for each promise, with the answers that the document asks for. */
-public final class PromiseTest {
-    private static final String EMPTY = "8./8./8./8./8./8./8./8.";
-    /** a at 0, b at 7, c at 56; no walls. */
-    private static final String THREE = "a6.b/8./8./8./8./8./8./c7.";
-
-    private static int wrong = 0;
-    private static int promise = 0;
-    private static int row = 0;
-
-    private static void due(long got, long want) {
-        row++;
-        if (got != want) {
-            wrong++;
-            System.out.println("promise " + promise + ", row " + row + ": answered " + got + ", due is " + want);
-        }
-    }
-
-    private static void due(boolean got, boolean want) {
-        due(got ? 1 : 0, want ? 1 : 0);
-    }
-
-    /** Bytes onto an empty tape, zeros behind them. */
-    private static void tape(GhostQuarter q, String bytes) {
-        q.check(0);
-        for (int i = 0; i < bytes.length(); i += 20) {
-            int[] n = new int[5];
-            for (int j = 0; j < 20; j++) {
-                int sign = i + j < bytes.length() ? bytes.charAt(i + j) : 0;
-                n[j / 4] = n[j / 4] << 8 | sign & 255;
-            }
-            q.feed(n[0], n[1], n[2], n[3], n[4]);
-        }
-    }
-
-    private static String bytes(int... numbers) {
-        StringBuilder b = new StringBuilder();
-        for (int number : numbers) {
-            b.append((char) number);
-        }
-        return b.toString();
-    }
-
-    private static String times(String s, int many) {
-        StringBuilder b = new StringBuilder();
-        for (int i = 0; i < many; i++) {
-            b.append(s);
-        }
-        return b.toString();
-    }
-
-    private static int quarter(GhostQuarter q, String text) {
-        tape(q, text);
-        return q.quarter(text.length());
-    }
-
-    private static int walk(GhostQuarter q, int h, String text) {
-        tape(q, text);
-        return q.walk(h, text.length());
-    }
-
-    private static int law(GhostQuarter q, String text) {
-        tape(q, text);
-        return q.law(text.length());
-    }
-
-    private static GhostQuarter with(String quarter, String law) {
-        GhostQuarter q = new GhostQuarter();
-        quarter(q, quarter);
-        if (!law.isEmpty()) {
-            law(q, law);
-        }
-        return q;
-    }
-
+public final class PromiseTest extends Rows {
     private static void start(int number) {
-        promise = number;
-        row = 0;
+        start(number, "");
+    }
+
+    private static void start(int number, String part) {
+        edge("promise " + number + (part.isEmpty() ? "" : ", " + part));
     }
 
     public static void main(String[] args) {
@@ -110,10 +40,7 @@ public final class PromiseTest {
         keepAndUndo();
         check();
         count();
-        System.out.println(wrong == 0 ? "all answers are as due" : wrong + " answers are not as due");
-        if (wrong != 0) {
-            System.exit(1);
-        }
+        tell();
     }
 
     private static void newObject() {
@@ -239,8 +166,7 @@ public final class PromiseTest {
     }
 
     private static void quarterFaults() {
-        start(3);
-        row = 1000;
+        start(3, "faults");
         GhostQuarter q = with(THREE, "");
         due(quarter(q, "k7./"), -1000);
         due(quarter(q, "A7./"), -1000);
@@ -464,8 +390,7 @@ public final class PromiseTest {
     }
 
     private static void lawValues() {
-        start(5);
-        row = 1000;
+        start(5, "values");
         tenths("3", 3);
         tenths("0", 0);
         tenths("10", 10);
@@ -527,8 +452,7 @@ public final class PromiseTest {
 
     /** The letters in f and c, THE NIGHT and its week. */
     private static void stages() {
-        start(5);
-        row = 2000;
+        start(5, "letters");
         GhostQuarter q = with("a7./8./8./8./8./8./8./b7.", "f1(1=1)");
         q.stranger(3, 4, 0, 900);
         due(walk(q, 0, "2."), 2);
@@ -562,8 +486,7 @@ public final class PromiseTest {
     }
 
     private static void lawRefused() {
-        start(5);
-        row = 3000;
+        start(5, "a division by 0");
         condition("1/0=1", false);
         condition("!1/0=1", false);
         condition("!(1%0=1)", false);
@@ -648,8 +571,7 @@ public final class PromiseTest {
         due(q.tells(-1), false);
         due(q.tells(0), false);
         due(q.tells(5), true);
-        start(7);
-        row = 100;
+        start(7, "told again");
         due(q.dog(1, true), true);
         due(q.houseIs(1, 2), 1);
         due(q.tells(1), true);
@@ -696,8 +618,7 @@ public final class PromiseTest {
     }
 
     private static void mostFear() {
-        start(9);
-        row = 100;
+        start(9, "the most FEAR");
         GhostQuarter q = with("a7./8./8./8./8./8./8./8.", "f98(1=1);c9(1=1)");
         q.stranger(0, 1, 0, 999);
         walk(q, 0, "9.");
@@ -1397,8 +1318,7 @@ public final class PromiseTest {
         due(q.haunts(0), 0);
         start(27);
         due(q.keep(), 1);
-        start(28);
-        row = 100;
+        start(28, "behind undo");
         due(q.haunts(0), 7);
         due(q.haunts(1), 0);
         q.tells(1);
@@ -1431,12 +1351,10 @@ public final class PromiseTest {
         due(q.undo(), true);
         due(q.count(0), 1);
         due(q.haunts(0), 7);
-        start(27);
-        row = 100;
+        start(27, "KEPT again");
         due(q.keep(), 2);
         due(q.haunts(0), 0);
-        start(28);
-        row = 200;
+        start(28, "undone again");
         due(q.undo(), true);
         due(q.count(0), 2);
         due(q.count(1), 7);
