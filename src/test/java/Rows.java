@@ -87,10 +87,11 @@ abstract class Rows {
 
     static GhostQuarter with(String quarter, String law) {
         GhostQuarter q = new GhostQuarter();
-        quarter(q, quarter);
+        boolean read = quarter(q, quarter) >= 0;
         if (!law.isEmpty()) {
-            law(q, law);
+            read &= law(q, law) >= 0;
         }
+        due(read, true);
         return q;
     }
 }
