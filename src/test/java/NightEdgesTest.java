@@ -17,7 +17,6 @@ public final class NightEdgesTest extends Rows {
         hauntsRefused();
         hauntsByLaw();
         hauntsAddsUp();
-        hauntsToTheLastNight();
         firstAndLastMinute();
         wallsAndBorders();
         oneRowOrColumn();
@@ -270,55 +269,6 @@ public final class NightEdgesTest extends Rows {
         }
         due(q.haunts(0), 0);
         due(q.count(1), 29970);
-    }
-
-    /** More calls than an object is promised for: no fewer lead to the last NIGHT. */
-    private static void hauntsToTheLastNight() {
-        edge("9: THE NIGHT 9999 at most: then none is");
-        GhostQuarter q = with("ab6./8./8./8./8./8./8./8.", "m(h=0);f1(d=9999)");
-        q.stranger(0, 4, 4, 5);
-        q.stranger(1, 0, 4, 5);
-        for (int night = 0; night < 9985; night++) {
-            if (q.haunts(0) != 0) {
-                due(night, -1);
-            }
-        }
-        due(q.count(0), 9985);
-        due(law(q, "m(d<9999);f1(1=1);c1(1=1);r10(d=9999)"), 4);
-        due(q.rotas(14, 3, 3, 100), 0);
-        due(q.rotas(6, 3, 3, 100), 2);
-        due(q.haunts(0), 0);
-        due(q.rotas(14, 3, 3, 100), -1);
-        due(q.rotas(13, 3, 3, 100), 0);
-        for (int night = 9986; night < 9998; night++) {
-            due(q.haunts(1), 0);
-        }
-        due(q.rotas(2, 3, 3, 100), -1);
-        due(q.rotas(1, 3, 3, 100), 2);
-        due(q.rotas(1, 3, 3, 0), 0);
-        due(q.houseIs(0, 3), 1);
-        due(q.goes(1, 1), 1);
-        due(q.keep(), 9998);
-        due(q.haunts(1), 0);
-        due(q.count(0), 9999);
-        edge("12: 3 whether it can haunt now: THE NIGHT below 9999");
-        law(q, "f1(1=1);c1(1=1);r10(d=9999)");
-        due(q.houseIs(0, 3), 0);
-        due(q.houseIs(1, 3), 0);
-        due(q.haunts(0), -1);
-        law(q, "m(1=2);f1(1=1);r10(d=9999&w=3)");
-        edge("9: NONE comes ahead of -2");
-        due(q.haunts(0), -1);
-        due(q.count(0), 9999);
-        edge("19: NONE: THE NIGHT would be above 9999 behind them");
-        due(q.rotas(1, 3, 3, 100), -1);
-        due(q.rotas(1, 3, 3, 0), -1);
-        edge("10: TRIED is a NIGHT (nothing is changed), the last one too");
-        due(q.tried(0, 5), 1);
-        due(q.goes(1, 1), 3);
-        due(q.keep(), 9999);
-        due(q.undo(), true);
-        due(q.count(0), 9999);
     }
 
     private static void firstAndLastMinute() {

@@ -220,6 +220,11 @@ public final class ReckoningEdgesTest extends Rows {
         due(q.rotas(4, 7, 3, 101), 2);
         due(q.rotas(6, 7, 3, 101), 3);
         due(q.rotas(5, 7, 3, 101), 3);
+        law(q, "m(h>0)");
+        due(q.rotas(4, 7, 3, 101), 2);
+        due(q.rotas(6, 7, 3, 101), 3);
+        law(q, "m(h=0|h=2)");
+        due(q.rotas(4, 7, 3, 101), 2);
         // over all such rows, not of the first one
         law(q, "m(1=1)");
         due(q.rotas(4, 15, 3, 0), 0);
@@ -345,18 +350,19 @@ public final class ReckoningEdgesTest extends Rows {
             due(q.goes(1, 1), 1);
             due(q.count(7), (25173L * seed + 13849) % 65536);
         }
-        // as it was again behind 65536 of them; no fewer bring it back
-        q.seed(0);
-        boolean back = false;
-        long x = 0;
-        for (int i = 0; i < 400; i++) {
-            q.goes(1, 20);
-            for (int k = 0; k < 20; k++) {
+        // 65536 DRAWS bring it back: 131 times 500, and 36
+        GhostQuarter p = with(ALL, "");
+        p.seed(4711);
+        long x = 4711;
+        for (int i = 0; i < 131; i++) {
+            due(p.goes(31, 20), 31);
+            for (int k = 0; k < 500; k++) {
                 x = (25173 * x + 13849) % 65536;
             }
-            back |= q.count(7) != x;
+            due(p.count(7), x);
         }
-        due(back, false);
+        due(p.goes(511, 4), 511);
+        due(p.count(7), 4711);
     }
 
     private static void oddsRefused() {
@@ -544,6 +550,9 @@ public final class ReckoningEdgesTest extends Rows {
         due(tax(q, 7, 0, 0, 0, 0, 0, 0, 0, 9, 9, 9), 4);
         due(tax(q, 8, 0, 0, 0, 0, 0, 0, 0, 9, 9, 9), 4);
         due(tax(q, 9, 0, 0, 0, 0, 0, 0, 0, 9, 9, 9), 3);
+        // what stands behind the first 10 bytes has no rest
+        due(tax(q, 1, 5, 5, 5, 0, 0, 0, 0, 0, 0, 0, 99, 1), 4);
+        due(tax(q, 2, 5, 5, 5, 0, 0, 0, 0, 0, 0, 0, 99, 1), 3);
         // nothing is left
         due(tax(q, 0, 10, 1), 10);
         due(tax(q, 1, 10, 1), 1);

@@ -8,6 +8,7 @@ public final class SearchEdgesTest extends Rows {
         dreadRefused();
         dreadFewestAndMostMinutes();
         dreadStepBehindEachButTheLast();
+        dreadFromEachCorner();
         dreadWalls();
         dreadLowestOfLikeOnes();
         dreadStaysAsItIs();
@@ -87,6 +88,24 @@ public final class SearchEdgesTest extends Rows {
         due(q.dread(0, 7, 1), 1);
         due(q.dread(0, 8, 0), 18);
         due(q.dread(0, 9, 0), 27);
+    }
+
+    private static void dreadFromEachCorner() {
+        edge("14: a STEP n, e, s or w: to each other spot by as many as there are between");
+        int[] corners = {0, 7, 56, 63};
+        for (int from : corners) {
+            StringBuilder text = new StringBuilder(EMPTY);
+            int row = 3 * (from / 8);
+            text.replace(row, row + 2, from % 8 == 0 ? "a7." : "7.a");
+            for (int to = 0; to < 64; to++) {
+                GhostQuarter q = with(text.toString(), "f9(a=0)");
+                q.stranger(0, to % 8, to / 8, 999);
+                int far = Math.abs(to % 8 - from % 8) + Math.abs(to / 8 - from / 8);
+                due(far == 0 ? 0 : q.dread(0, far, 0), 0);
+                due(q.dread(0, far + 1, 0), 9);
+                due(q.dread(0, far + 1, 1), to);
+            }
+        }
     }
 
     private static void dreadWalls() {
