@@ -573,6 +573,9 @@ public final class SearchEdgesTest extends Rows {
         due(sightings(q, 0, 0, 3, 1, 2, 1, 4, 2, 3), 2);
         due(sightings(q, 0, 0, 3, 1, 2, 1, 4, 2, 1, 2, 5), 2);
         due(sightings(q, 0, 0, 3, 1, 2, 1, 4, 2, 1, 2, 3, 2, 5), 3);
+        // two that one later one could be of, and one apart from all
+        due(sightings(q, 0, 0, 0, 0, 2, 1, 1, 1, 63), 3);
+        due(sightings(q, 0, 0, 63, 0, 0, 0, 2, 1, 1), 3);
         // by taking the nearest one first it would be three
         due(sightings(q, 0, 0, 0, 0, 4, 4, 2, 6, 0, 8, 7), 2);
         due(sightings(q, 0, 0, 0, 0, 8, 2, 1, 2, 16, 3, 0, 3, 8), 2);

@@ -671,6 +671,21 @@ public final class TextEdgesTest extends Rows {
         due(law(p, times("m(1=2);", 15) + "m(h=1)"), 16);
         due(p.houseIs(1, 3), 1);
         due(p.houseIs(0, 3), 0);
+        // of sixteen none holds
+        due(law(p, times("r5(1=2);", 15) + "r7(1=2)"), 16);
+        due(p.odds(1, 1, 0), 0);
+        due(law(p, times("m(1=2);", 16).substring(0, 111)), 16);
+        due(p.houseIs(1, 3), 0);
+        // those of the law before are gone, of each one before
+        for (int many = 16; many > 1; many--) {
+            due(law(p, times("r9(1=1);", many - 1) + "m(h=1)"), many);
+            due(p.odds(1, 1, 0), 9);
+            due(p.houseIs(0, 3), 0);
+            due(p.houseIs(1, 3), 1);
+            due(law(p, "r1+1+1+1+1+1+1+1+1+1+1+1+1+1(1=2|1=2|1=2)"), 1);
+            due(p.odds(1, 1, 0), 0);
+            due(p.houseIs(0, 3), 1);
+        }
         due(law(q, CLAUSE + ";"), -1007);
         due(law(q, ";" + CLAUSE), -1000);
         due(law(q, CLAUSE + ";;" + CLAUSE), -1007);
@@ -1047,6 +1062,12 @@ public final class TextEdgesTest extends Rows {
         due(q.odds(1, 1, 0), 7);
         law(q, "m(1/0=0)");
         due(q.houseIs(0, 3), 0);
+        // as often as one likes: nothing is left of it
+        law(q, "m(1+2*[3-4*[5/0]]=0);m(h=2)");
+        for (int round = 0; round < 80; round++) {
+            due(q.houseIs(0, 3), 0);
+            due(q.houseIs(2, 3), 1);
+        }
     }
 
     private static void lawAsMuchAsMatters() {
